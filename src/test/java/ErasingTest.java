@@ -30,6 +30,7 @@ public final class ErasingTest {
         standBeforeIt();
         standWhenSeveralGo();
         standWhenTheOwnerGoes();
+        nothingOfItIsLeft();
         SCRIPT.end();
     }
 
@@ -344,6 +345,41 @@ public final class ErasingTest {
             find(1, 1)
             erase(1) = 1
             current(2, 0) = 4
+            """);
+    }
+
+    private static void nothingOfItIsLeft() {
+        SCRIPT.run("what is stored behind it takes over no ring, position, field or current place", """
+            type(1) = 0
+            type(1) = 1
+            set(0, 1, 1, 5) = 0
+            set(0, 1, 1, 5) = 1
+            store(0, 0, 0, 0) = 1
+            store(1, 8, 0, 0) = 2
+            store(1, 9, 0, 0) = 3
+            erase(0) = 1
+            store(0, 0, 0, 0) = 4
+            current(1, 1) = 0
+            owner(0, 4) = 0
+            owner(1, 4) = 0
+            seek(0, 0, 9) ! Element
+            store(1, 5, 0, 0) = 5
+            store(1, 6, 0, 0) = 6
+            find(4, 0)
+            move(0, 2) = 5
+            find(4, 0)
+            scan(1, 0, 5) = 5
+            find(1, 0)
+            erase(1) = 1
+            find(4, 0)
+            store(1, 7, 0, 0) = 7
+            owner(0, 2) = 0
+            owner(1, 2) = 0
+            owner(0, 7) = 4
+            store(0, 0, 0, 0) = 8
+            members(0) = 0
+            members(1) = 0
+            current(1, 0) = 8
             """);
     }
 }
