@@ -1,5 +1,4 @@
 import java.util.ArrayList;
-import java.util.Arrays;
 import java.util.List;
 import java.util.Map;
 import java.util.Random;
@@ -8,8 +7,6 @@ import java.util.TreeMap;
 /** All promises: long runs of mixed calls, each answered by OwnerRings and by PlainRings alike. */
 public final class ModelTest {
     private static final int RUNS = 3000;
-    /** What an object is used for at most. */
-    private static final int CALLS = 512;
     private static final int CALLS_BEFORE_WALK = 400;
     private static final int FEW = 100;
     private static final int STEPS = 2;
@@ -167,11 +164,12 @@ public final class ModelTest {
 
     /** Answers false if the call threw, or was not made because no call is left or an answer was wrong. */
     private boolean call(String name, int... args) {
-        if (told.size() >= CALLS || differs) {
+        if (told.size() >= Portrait.CALLS || differs) {
             return false;
         }
-        String got = Script.answer(rings, name, args);
-        String due = Script.answer(plain, name, args);
+        Call call = new Call(name, args);
+        String got = call.on(rings);
+        String due = call.on(plain);
         boolean threw = due.startsWith("throws");
         if (name.equals("type") && !threw) {
             types++;
@@ -179,8 +177,7 @@ public final class ModelTest {
         if (name.equals("set") && !threw) {
             sets++;
         }
-        String text = Arrays.toString(args);
-        told.add(name + "(" + text.substring(1, text.length() - 1) + ") " + got);
+        told.add(call + " " + got);
         String modeOfErase = name.equals("erase") ? args[0] + " " : "";
         seen.merge(name + " " + modeOfErase + (threw ? due : "answers"), 1, Integer::sum);
         if (!got.equals(due)) {

@@ -1,43 +1,47 @@
-import java.lang.reflect.InvocationTargetException;
-import java.lang.reflect.Method;
-import java.util.Arrays;
+import java.util.ArrayList;
+import java.util.List;
+import java.util.Set;
 
 /**
  * Runs of calls that are written as text, one call a row: "move(0, 2) = 5" for an answer,
  * "find(3, 0)" for a call without one, "erase(0) ! State" for an exception
- * (Argument, Element or State).
+ * (Argument, Element or State). Behind each call that throws, and each that only tells
+ * something, all that can be seen must be as it was.
  */
 final class Script {
+    private static final Set<String> TELLING = Set.of("current", "get", "members", "owner", "count");
+
     private int rows = 0;
     private int wrong = 0;
 
-    /** Calls a method that takes ints alone; an exception is answered as throws.Name, no answer as "". */
-    static String answer(Object target, String name, int... args) {
-        Class<?>[] kinds = new Class<?>[args.length];
-        Arrays.fill(kinds, int.class);
-        Object[] values = Arrays.stream(args).boxed().toArray();
-        try {
-            Method method = target.getClass().getDeclaredMethod(name, kinds);
-            Object got = method.invoke(target, values);
-            return got == null ? "" : got.toString();
-        } catch (InvocationTargetException e) {
-            return "throws." + e.getCause().getClass().getSimpleName();
-        } catch (ReflectiveOperationException e) {
-            throw new IllegalArgumentException("no call " + name + Arrays.toString(args), e);
+    /** Rows that come to an owner and walk its ring of a set there and back: these are its members. */
+    static String ring(int set, int owner, int... members) {
+        StringBuilder text = new StringBuilder("find(" + owner + ", 0); members(" + set + ") = " + members.length);
+        for (int key : members) {
+            text.append("; move(").append(set).append(", 2) = ").append(key);
         }
+        text.append("; move(").append(set).append(", 2) ! Element");
+        if (members.length > 0) {
+            text.append("; find(").append(owner).append(", 0)");
+        }
+        for (int i = members.length - 1; i >= 0; i--) {
+            text.append("; move(").append(set).append(", 3) = ").append(members[i]);
+        }
+        return text.append("; move(").append(set).append(", 3) ! Element\n").toString();
     }
 
-    /** A run on a new object; the texts may hold several rows, one a line. */
+    /** A run on a new object; the texts may hold several rows, each ended by a line's end or a semicolon. */
     void run(String title, String... texts) {
         OwnerRings rings = new OwnerRings();
-        int number = 0;
-        for (String text : texts) {
-            for (String row : text.split("\n")) {
-                if (!row.isBlank()) {
-                    number++;
-                    check(rings, title + ", row " + number, row.trim());
-                }
+        List<Call> made = new ArrayList<>();
+        for (String row : String.join("\n", texts).split("[\n;]")) {
+            if (!row.isBlank()) {
+                check(title, rings, made, row.trim());
+                made.add(Call.read(row));
             }
+        }
+        if (made.size() > Portrait.CALLS) {
+            tellWrong(title + ": " + made.size() + " calls are more than the document allows");
         }
     }
 
@@ -49,19 +53,25 @@ final class Script {
         }
     }
 
-    private void check(OwnerRings rings, String where, String row) {
-        int open = row.indexOf('(');
-        int close = row.indexOf(')');
-        String inside = row.substring(open + 1, close).trim();
-        int[] args = inside.isEmpty() ? new int[0]
-                : Arrays.stream(inside.split(",")).map(String::trim).mapToInt(Integer::parseInt).toArray();
-        String got = answer(rings, row.substring(0, open), args);
-        String want = due(row.substring(close + 1).trim());
+    private void check(String title, OwnerRings rings, List<Call> made, String row) {
+        String where = title + ", row " + (made.size() + 1) + ": " + row;
+        Call call = Call.read(row);
+        String got = call.on(rings);
+        String want = due(row.substring(row.indexOf(')') + 1).trim());
         rows++;
         if (!got.equals(want)) {
-            wrong++;
-            System.out.println(where + ": " + row + " answered '" + got + "'");
+            tellWrong(where + " answered '" + got + "'");
+        } else if (want.startsWith("throws.") || TELLING.contains(call.name())) {
+            String change = Portrait.change(made, call);
+            if (!change.isEmpty()) {
+                tellWrong(where + " changed something: " + change);
+            }
         }
+    }
+
+    private void tellWrong(String text) {
+        wrong++;
+        System.out.println(text);
     }
 
     private static String due(String text) {
