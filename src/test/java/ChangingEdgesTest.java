@@ -275,6 +275,12 @@ public final class ChangingEdgesTest {
             """, Script.ring(2, 2, 3, 4), """
             store(1, 6, 0, 0) = 5; connect(2)
             """, Script.ring(2, 2, 3, 4, 5));
+        SCRIPT.run("promise 12: it is refused: one does not come to it where one does not stand on it", UNTIED, """
+            connect(2); find(3, 0); connect(0)
+            find(2, 6); find(3, 1)
+            connect(2) ! State
+            current(0, 0) = 3; current(1, 1) = 3; current(2, 0) = 2; current(2, 2) = 4
+            """);
         SCRIPT.run("promise 12: the value in another owner's ring does not refuse it", UNTIED, """
             connect(2); find(1, 0); find(3, 0); connect(2)
             """, Script.ring(2, 1, 3), Script.ring(2, 2, 4));
